@@ -1,0 +1,71 @@
+/** Counts and prints the calls of a test whose answer is not the one that is due. */
+final class Due {
+    private final String test;
+    private int asked;
+    private int wrong;
+
+    Due(String test) {
+        this.test = test;
+    }
+
+    void is(String call, long got, long want) {
+        asked++;
+        if (got != want) {
+            wrong++;
+            System.out.println(test + ": " + call + " answered " + got + ", due is " + want);
+        }
+    }
+
+    void is(String call, boolean got, boolean want) {
+        is(call, got ? 1 : 0, want ? 1 : 0);
+    }
+
+    /** Feeds a text, filled up with blanks to whole calls of feed. */
+    static int feed(PurseTrace x, String text) {
+        int answer = PurseTrace.NONE;
+        for (int at = 0; at < text.length(); at += 20) {
+            int[] words = new int[5];
+            for (int i = 0; i < 20; i++) {
+                int sign = at + i < text.length() ? text.charAt(at + i) : ' ';
+                words[i / 4] = words[i / 4] << 8 | sign;
+            }
+            answer = x.feed(words[0], words[1], words[2], words[3], words[4]);
+        }
+        return answer;
+    }
+
+    /** Feeds numbers, filled up with zeros to whole calls of feed. */
+    static void feedNumbers(PurseTrace x, int... numbers) {
+        for (int at = 0; at < numbers.length; at += 5) {
+            int[] words = new int[5];
+            for (int i = 0; i < 5 && at + i < numbers.length; i++) {
+                words[i] = numbers[at + i];
+            }
+            x.feed(words[0], words[1], words[2], words[3], words[4]);
+        }
+    }
+
+    static int rules(PurseTrace x, int land, int from, int to, String text) {
+        feed(x, text);
+        return x.rules(land, from, to, text.length());
+    }
+
+    static int rules(PurseTrace x, int land, String text) {
+        return rules(x, land, 0, 3999, text);
+    }
+
+    static PurseTrace with(int persons) {
+        PurseTrace x = new PurseTrace();
+        for (int i = 0; i < persons; i++) {
+            x.person();
+        }
+        return x;
+    }
+
+    void end() {
+        System.out.println(test + ": " + asked + " calls, " + wrong + " wrong");
+        if (wrong != 0) {
+            System.exit(1);
+        }
+    }
+}
