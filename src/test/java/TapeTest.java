@@ -13,6 +13,7 @@ public final class TapeTest {
         manyClauses(due);
         deepOnes(due);
         checks(due);
+        bigChecks(due);
         due.end();
     }
 
@@ -240,5 +241,21 @@ public final class TapeTest {
         x.line(2, 0, -1, 258, 1, 0, 0);
         Due.feedNumbers(x, 1, 0, 300, 1, 2, 1070000);
         due.is("as all is now", x.check(2), NONE);
+    }
+
+    /** Sums with something in each of their four bytes. */
+    private static void bigChecks(Due due) {
+        PurseTrace x = Due.with(1);
+        x.purse(0, 0);
+        for (int i = 0; i < 20; i++) {
+            x.line(0, 0, 0, 1000000 - 1, 0, 0, 0);
+        }
+        int sum = 19999980;
+        for (int shift = 0; shift < 32; shift++) {
+            Due.feedNumbers(x, 0, 0, sum ^ 1 << shift);
+            due.is("a sum wrong in bit " + shift, x.check(1), 2);
+        }
+        Due.feedNumbers(x, 0, 0, sum);
+        due.is("a big sum", x.check(1), NONE);
     }
 }
