@@ -1116,7 +1116,7 @@ public final class PurseTrace {
         }
 
         private int grab(int i, int sum) {
-            int bit = Math.min(sum, much[i]);
+            int bit = sum < much[i] ? sum : much[i];
             much[i] -= bit;
             got[whose[i]] += bit;
             if (bit > 0 && taken < ROOM) {
