@@ -10,12 +10,6 @@ public final class DebtsTest {
         due.end();
     }
 
-    private static void all(Due due, PurseTrace x, String what, int... want) {
-        for (int i = 0; i < want.length; i++) {
-            due.is(what + " paid(" + i + ")", x.paid(i), want[i]);
-        }
-    }
-
     private static void ranks(Due due) {
         PurseTrace x = Due.with(3);
         x.purse(0, 0);
@@ -24,23 +18,23 @@ public final class DebtsTest {
         x.debt(0, 1, 30, 1);
         x.debt(1, 0, 40, 0);
         x.debt(0, 2, 5, 0);
-        all(due, x, "nothing is there", 0, 0, 0, 0, 0);
+        due.paid(x, "nothing is there", 0, 0, 0, 0, 0);
         x.line(0, 0, 0, 4, 0, 0, 0);
-        all(due, x, "less than the first rank", 0, 0, 0, 0, 4);
+        due.paid(x, "less than the first rank", 0, 0, 0, 0, 4);
         x.line(0, 0, 0, 1, 0, 1, 1);
-        all(due, x, "the first rank", 0, 0, 0, 0, 5);
+        due.paid(x, "the first rank", 0, 0, 0, 0, 5);
         x.line(0, 0, 0, 1, 0, 2, 2);
-        all(due, x, "one more", 0, 1, 0, 0, 5);
+        due.paid(x, "one more", 0, 1, 0, 0, 5);
         x.line(0, 0, 0, 48, 0, 3, 3);
-        all(due, x, "one too few", 0, 20, 29, 0, 5);
+        due.paid(x, "one too few", 0, 20, 29, 0, 5);
         x.line(0, 0, 0, 1, 0, 4, 4);
-        all(due, x, "two ranks", 0, 20, 30, 0, 5);
+        due.paid(x, "two ranks", 0, 20, 30, 0, 5);
         x.line(0, 0, 0, 9, 0, 5, 5);
-        all(due, x, "an empty rank between", 9, 20, 30, 0, 5);
+        due.paid(x, "an empty rank between", 9, 20, 30, 0, 5);
         x.line(0, 0, 0, 9, 0, 6, 6);
-        all(due, x, "all", 10, 20, 30, 0, 5);
+        due.paid(x, "all", 10, 20, 30, 0, 5);
         x.debt(0, 1, 100, 0);
-        all(due, x, "the next ones nothing", 0, 0, 0, 0, 4, 69);
+        due.paid(x, "the next ones nothing", 0, 0, 0, 0, 4, 69);
     }
 
     private static void ownPursesOnly(Due due) {
@@ -64,7 +58,7 @@ public final class DebtsTest {
             x.debt(i % 2, 2, 3, 1);
         }
         x.line(0, 0, 0, 5, 0, 0, 0);
-        all(due, x, "one each by numbers", 2, 0, 2, 0, 1, 0);
+        due.paid(x, "one each by numbers", 2, 0, 2, 0, 1, 0);
     }
 
     private static void bigOnes(Due due) {

@@ -20,6 +20,31 @@ final class Due {
         is(call, got ? 1 : 0, want ? 1 : 0);
     }
 
+    /** The PARTS of a PURSE, each a PERSON and a SUM, and none behind them. */
+    void parts(PurseTrace x, String what, int p, int... want) {
+        for (int i = 0; i < want.length; i += 2) {
+            is(what + ": part(" + p + ", " + i / 2 + ", 0)", x.part(p, i / 2, 0), want[i]);
+            is(what + ": part(" + p + ", " + i / 2 + ", 1)", x.part(p, i / 2, 1), want[i + 1]);
+        }
+        is(what + ": the end of " + p, x.part(p, want.length / 2, 0), PurseTrace.NONE);
+        is(what + ": the end of " + p, x.part(p, want.length / 2, 1), PurseTrace.NONE);
+    }
+
+    /** What of DEBTS 0 and so on is PAID. */
+    void paid(PurseTrace x, String what, int... want) {
+        for (int i = 0; i < want.length; i++) {
+            is(what + ": paid(" + i + ")", x.paid(i), want[i]);
+        }
+    }
+
+    /** The least, the most, and how many ORDERS. */
+    void sure(PurseTrace x, int p, int o, int day, int... want) {
+        for (int what = 0; what < want.length; what++) {
+            String call = "sure(" + p + ", " + o + ", " + day + ", " + what + ")";
+            is(call, x.sure(p, o, day, what), want[what]);
+        }
+    }
+
     /** Feeds a text, filled up with blanks to whole calls of feed. */
     static int feed(PurseTrace x, String text) {
         int answer = PurseTrace.NONE;

@@ -14,13 +14,6 @@ public final class OrdersTest {
         due.end();
     }
 
-    private static void sure(Due due, PurseTrace x, int p, int o, int day, int... want) {
-        for (int what = 0; what < 3; what++) {
-            String call = "sure(" + p + ", " + o + ", " + day + ", " + what + ")";
-            due.is(call, x.sure(p, o, day, what), want[what]);
-        }
-    }
-
     private static PurseTrace start() {
         PurseTrace x = Due.with(2);
         x.purse(0, 0);
@@ -31,14 +24,14 @@ public final class OrdersTest {
 
     private static void noLines(Due due) {
         PurseTrace x = start();
-        sure(due, x, 0, 1, 0, 0, 0, 1);
+        due.sure(x, 0, 1, 0, 0, 0, 1);
         x.line(0, 0, 1, 9, 2, 0, 23);
-        sure(due, x, 0, 1, 0, 9, 9, 1);
-        sure(due, x, 0, 1, 3, 9, 9, 1);
-        sure(due, x, 0, 1, 3999, 9, 9, 1);
-        sure(due, x, 0, 1, 2, 9, 9, 1);
-        sure(due, x, 0, 0, 2, 0, 0, 1);
-        sure(due, x, 1, 1, 2, 0, 0, 1);
+        due.sure(x, 0, 1, 0, 9, 9, 1);
+        due.sure(x, 0, 1, 3, 9, 9, 1);
+        due.sure(x, 0, 1, 3999, 9, 9, 1);
+        due.sure(x, 0, 1, 2, 9, 9, 1);
+        due.sure(x, 0, 0, 2, 0, 0, 1);
+        due.sure(x, 1, 1, 2, 0, 0, 1);
     }
 
     /** First in, first out: who comes first is spent first. */
@@ -47,11 +40,11 @@ public final class OrdersTest {
         x.line(0, 0, 1, 9, 3, 0, 5);
         x.line(0, 0, 0, 9, 3, 3, 8);
         x.line(2, 0, NONE, 7, 3, 9, 9);
-        sure(due, x, 0, 1, 3, 2, 9, 2);
-        sure(due, x, 0, 0, 3, 2, 9, 2);
+        due.sure(x, 0, 1, 3, 2, 9, 2);
+        due.sure(x, 0, 0, 3, 2, 9, 2);
         due.is("left as told", x.left(0, 1, 3, 3), 2);
         x.strike(2);
-        sure(due, x, 0, 1, 3, 9, 9, 2);
+        due.sure(x, 0, 1, 3, 9, 9, 2);
     }
 
     private static void sixLines(Due due) {
@@ -60,16 +53,16 @@ public final class OrdersTest {
             x.line(0, 0, i % 2, 1 << i, 3, 0, 23);
         }
         x.line(2, 0, NONE, 1, 3, 0, 23);
-        sure(due, x, 0, 0, 3, 20, 21, 720);
-        sure(due, x, 0, 1, 3, 9, 10, 720);
+        due.sure(x, 0, 0, 3, 20, 21, 720);
+        due.sure(x, 0, 1, 3, 9, 10, 720);
         x.line(0, 0, 0, 1, 2, 0, 23);
         x.line(0, 0, 0, 1, 2, 0, 23);
-        sure(due, x, 0, 0, 2, 22, 22, 2);
+        due.sure(x, 0, 0, 2, 22, 22, 2);
         x.line(0, 0, 0, 1, 3, 0, 0);
-        sure(due, x, 0, 0, 3, NONE, NONE, NONE);
-        sure(due, x, 0, 0, 2, 23, 23, 2);
+        due.sure(x, 0, 0, 3, NONE, NONE, NONE);
+        due.sure(x, 0, 0, 2, 23, 23, 2);
         x.strike(0);
-        sure(due, x, 0, 0, 3, 22, 22, 720);
+        due.sure(x, 0, 0, 3, 22, 22, 720);
         due.is("left", x.left(0, 0, 3, 3), 22);
     }
 
@@ -97,13 +90,13 @@ public final class OrdersTest {
         x.line(2, 0, NONE, 10, 2, 0, 9);
         x.line(0, 0, 0, 10, 2, 5, 12);
         x.move(0, 1, 10, true, 3, 0, 0);
-        sure(due, x, 1, 0, 2, 10, 10, 2);
+        due.sure(x, 1, 0, 2, 10, 10, 2);
         x.line(0, 0, 1, 5, 2, 0, 12);
-        sure(due, x, 1, 1, 2, 0, 5, 6);
-        sure(due, x, 1, 0, 2, 5, 10, 6);
-        sure(due, x, 1, 1, 3, 5, 5, 1);
+        due.sure(x, 1, 1, 2, 0, 5, 6);
+        due.sure(x, 1, 0, 2, 5, 10, 6);
+        due.sure(x, 1, 1, 3, 5, 5, 1);
         due.is("left as told", x.left(1, 1, 3, 3), 5);
-        sure(due, x, 0, 1, 1, 0, 0, 1);
+        due.sure(x, 0, 1, 1, 0, 0, 1);
     }
 
     /** The later numbers have the earlier hours. */
@@ -112,9 +105,9 @@ public final class OrdersTest {
         x.line(2, 0, NONE, 4, 3, 20, 20);
         x.line(0, 0, 0, 4, 3, 10, 20);
         x.line(0, 0, 1, 4, 3, 5, 10);
-        sure(due, x, 0, 1, 3, 0, 4, 3);
+        due.sure(x, 0, 1, 3, 0, 4, 3);
         due.is("left as told", x.left(0, 1, 3, 3), 0);
-        sure(due, x, 0, 0, 3, 0, 4, 3);
+        due.sure(x, 0, 0, 3, 0, 4, 3);
     }
 
     private static void refused(Due due) {

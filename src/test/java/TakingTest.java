@@ -37,26 +37,17 @@ public final class TakingTest {
         return x;
     }
 
-    private static void row(Due due, PurseTrace x, String what, int p, int... want) {
-        for (int i = 0; i < want.length; i += 2) {
-            due.is(what + " part(" + p + ", " + i / 2 + ", 0)", x.part(p, i / 2, 0), want[i]);
-            due.is(what + " part(" + p + ", " + i / 2 + ", 1)", x.part(p, i / 2, 1), want[i + 1]);
-        }
-        due.is(what + " end of " + p, x.part(p, want.length / 2, 0), NONE);
-        due.is(what + " end of " + p, x.part(p, want.length / 2, 1), NONE);
-    }
-
     private static void parts(Due due) {
         PurseTrace x = mixed();
-        row(due, x, "mixed", 0, 1, 30, 0, 20, 2, 10, 1, 40, 0, 50);
-        row(due, x, "empty", 1);
+        due.parts(x, "mixed", 0, 1, 30, 0, 20, 2, 10, 1, 40, 0, 50);
+        due.parts(x, "empty", 1);
         due.is("part -1", x.part(0, -1, 0), NONE);
         due.is("part of 2", x.part(0, 0, 2), NONE);
         due.is("part of -1", x.part(0, 0, -1), NONE);
         due.is("part of no purse", x.part(2, 0, 0), NONE);
         due.is("part of purse -1", x.part(-1, 0, 0), NONE);
         x.line(0, 0, 0, 5, 0, 5, 5);
-        row(due, x, "one behind its like", 0, 1, 30, 0, 20, 2, 10, 1, 40, 0, 55);
+        due.parts(x, "one behind its like", 0, 1, 30, 0, 20, 2, 10, 1, 40, 0, 55);
         due.is("left of all", x.left(0, NONE, 0, 0), 155);
         due.is("left of 0", x.left(0, 0, 0, 0), 75);
         due.is("took of a come", x.took(3, 1, 0), 40);
@@ -82,8 +73,8 @@ public final class TakingTest {
             Due.rules(x, 0, "w" + w + "(1=1)");
             x.move(0, 1, 55, true, 0, 9, 9);
             due.is("way " + w, x.way(5, 0), w);
-            row(due, x, "left by " + w, 0, rest[w]);
-            row(due, x, "moved by " + w, 1, moved[w]);
+            due.parts(x, "left by " + w, 0, rest[w]);
+            due.parts(x, "moved by " + w, 1, moved[w]);
         }
     }
 
@@ -122,44 +113,44 @@ public final class TakingTest {
         PurseTrace x = mixed();
         Due.rules(x, 0, "w3(s=70);w4(s=80)");
         x.line(2, 0, NONE, 70, 0, 9, 9);
-        row(due, x, "others stay", 0, 1, 30, 2, 10, 1, 40);
+        due.parts(x, "others stay", 0, 1, 30, 2, 10, 1, 40);
         x = mixed();
         Due.rules(x, 0, "w3(s=70);w4(s=80)");
         x.line(2, 0, NONE, 80, 0, 9, 9);
-        row(due, x, "the holder's join", 0, 0, 70);
+        due.parts(x, "the holder's join", 0, 0, 70);
         x.line(0, 0, 1, 3, 0, 10, 10);
         x.line(0, 0, 0, 4, 0, 11, 11);
-        row(due, x, "and go on", 0, 0, 70, 1, 3, 0, 4);
+        due.parts(x, "and go on", 0, 0, 70, 1, 3, 0, 4);
     }
 
     private static void moves(Due due) {
         PurseTrace x = mixed();
         x.line(0, 1, 1, 7, 0, 0, 0);
         x.move(0, 1, 35, true, 0, 9, 9);
-        row(due, x, "taken join behind all", 1, 1, 37, 0, 5);
-        row(due, x, "and leave the rest", 0, 0, 15, 2, 10, 1, 40, 0, 50);
+        due.parts(x, "taken join behind all", 1, 1, 37, 0, 5);
+        due.parts(x, "and leave the rest", 0, 0, 15, 2, 10, 1, 40, 0, 50);
         due.is("nothing is lost", x.lost(0, 1, 0, 0), 0);
         Due.rules(x, 1, "g(1=1)");
-        row(due, x, "leading ends", 1, 1, 7, 2, 35);
+        due.parts(x, "leading ends", 1, 1, 7, 2, 35);
         x.knows(2, 0, 0);
-        row(due, x, "but of whom one knows", 1, 1, 7, 2, 30, 0, 5);
+        due.parts(x, "but of whom one knows", 1, 1, 7, 2, 30, 0, 5);
         due.is("it was the other's as it was taken", x.took(6, 1, 0), 30);
         x.knows(0, 1, 0);
-        row(due, x, "who else knows is nothing", 1, 1, 7, 2, 30, 0, 5);
+        due.parts(x, "who else knows is nothing", 1, 1, 7, 2, 30, 0, 5);
         x.knows(2, 1, 1);
-        row(due, x, "known a day late", 1, 1, 7, 2, 30, 0, 5);
+        due.parts(x, "known a day late", 1, 1, 7, 2, 30, 0, 5);
         x.now(2);
         x.knows(2, 1, 0);
-        row(due, x, "known, told late", 1, 1, 37, 0, 5);
+        due.parts(x, "known, told late", 1, 1, 37, 0, 5);
         due.is("as told ahead", x.left(1, 2, 2, 1), 30);
         due.is("as told then", x.left(1, 2, 2, 2), 0);
         x.move(0, 1, 25, false, 2, 0, 0);
-        row(due, x, "not given for", 1, 1, 37, 0, 20, 2, 10);
+        due.parts(x, "not given for", 1, 1, 37, 0, 20, 2, 10);
         x.move(0, 1, 40, true, 2, 1, 1);
-        row(due, x, "known of", 1, 1, 37, 0, 20, 2, 10, 1, 40);
+        due.parts(x, "known of", 1, 1, 37, 0, 20, 2, 10, 1, 40);
         Due.rules(x, 1, "w1(1=1)");
         x.move(1, 0, 45, true, 2, 2, 2);
-        row(due, x, "back, the last ahead, no g there", 0, 0, 50, 1, 40, 2, 5);
+        due.parts(x, "back, the last ahead, no g there", 0, 0, 50, 1, 40, 2, 5);
     }
 
     private static void spentAndGood(Due due) {
@@ -171,16 +162,16 @@ public final class TakingTest {
         due.is("lost out of another", x.lost(1, 1, 0, 0), 0);
         due.is("lost of all", x.lost(0, NONE, 0, 0), NONE);
         int i = x.line(5, 0, 1, 20, 0, 10, 10);
-        row(due, x, "made good", 0, 2, 5, 1, 40, 0, 50, 1, 20);
+        due.parts(x, "made good", 0, 2, 5, 1, 40, 0, 50, 1, 20);
         due.is("still lost", x.lost(0, 1, 0, 0), 10);
         i = x.line(5, 0, 1, 25, 0, 11, 11);
-        row(due, x, "and more", 0, 2, 5, 1, 40, 0, 50, 1, 30, 0, 15);
+        due.parts(x, "and more", 0, 2, 5, 1, 40, 0, 50, 1, 30, 0, 15);
         due.is("not lost any more", x.lost(0, 1, 0, 0), 0);
         due.is("what came is 1's", x.took(i, 1, 0), 10);
         due.is("what came is 0's", x.took(i, 0, 0), 15);
         due.is("what came is 2's", x.took(i, 2, 0), 0);
         x.line(5, 1, 2, 9, 0, 12, 12);
-        row(due, x, "another purse", 1, 2, 9);
+        due.parts(x, "another purse", 1, 2, 9);
         due.is("lost of 2 stays", x.lost(0, 2, 0, 0), 5);
     }
 
@@ -191,7 +182,7 @@ public final class TakingTest {
         x.line(0, 0, 0, 5, 0, 0, 0);
         x.line(2, 0, NONE, 12, 0, 1, 1);
         int i = x.line(5, 0, 1, 6, 0, 2, 2);
-        row(due, x, "the holder's own", 0, 0, 3, 1, 6);
+        due.parts(x, "the holder's own", 0, 0, 3, 1, 6);
         due.is("the holder loses nothing", x.lost(0, 1, 0, 0), 0);
         due.is("the other does", x.lost(0, 0, 0, 0), 2);
         due.is("took", x.took(i, 1, 0), 6);
@@ -210,7 +201,7 @@ public final class TakingTest {
         due.is("more shares of 1", x.share(0, 1, 0, 0), 70);
         due.is("more shares of 2", x.share(0, 2, 0, 0), 10);
         i = x.deal(true, 1, 0, 85, 0, 11, 11);
-        row(due, x, "sold into another's purse", 1, 0, 19, 1, 66);
+        due.parts(x, "sold into another's purse", 1, 0, 19, 1, 66);
     }
 
     private static void risingSales(Due due) {
@@ -218,7 +209,7 @@ public final class TakingTest {
         Due.rules(x, 0, "r(s>10)");
         x.deal(false, 0, 0, 55, 0, 9, 9);
         int i = x.deal(true, 0, 0, 112, 0, 10, 10);
-        row(due, x, "a rise", 0, 2, 5, 1, 40, 0, 91, 1, 61, 2, 10);
+        due.parts(x, "a rise", 0, 2, 5, 1, 40, 0, 91, 1, 61, 2, 10);
         due.is("took of a sale", x.took(i, 0, 0), 41);
         due.is("took of a sale", x.took(i, 1, 0), 61);
         due.is("took of a sale", x.took(i, 2, 0), 10);
@@ -229,7 +220,7 @@ public final class TakingTest {
         Due.rules(y, 0, "r(s<3)");
         y.deal(false, 0, 0, 150, 0, 9, 9);
         y.deal(true, 0, 0, 2, 0, 10, 10);
-        row(due, y, "a rise to little", 0, 0, 1, 1, 1);
+        due.parts(y, "a rise to little", 0, 0, 1, 1, 1);
     }
 
     private static void fallingSales(Due due) {
@@ -245,7 +236,7 @@ public final class TakingTest {
             x.line(0, 0, 2, 5, 0, 2, 2);
             x.deal(false, 0, 0, 55, 0, 9, 9);
             int i = x.deal(true, 0, 0, sums[n], 0, 10, 10);
-            row(due, x, "sold for " + sums[n], 0, want[n]);
+            due.parts(x, "sold for " + sums[n], 0, want[n]);
             due.is("way of a sale", x.way(i, 0), -3);
         }
     }
@@ -259,13 +250,13 @@ public final class TakingTest {
         x.line(0, 0, 0, 3, 5, 6, 23);
         x.line(0, 0, 2, 4, 4, 23, 23);
         x.line(0, 0, 1, 5, 5, 0, 0);
-        row(due, x, "days, hours, numbers", 0, 2, 4, 1, 5, 0, 3, 2, 1, 1, 2);
+        due.parts(x, "days, hours, numbers", 0, 2, 4, 1, 5, 0, 3, 2, 1, 1, 2);
         due.is("at the end of 4", x.left(0, NONE, 4, 5), 4);
         due.is("at the end of 3", x.left(0, NONE, 3, 5), 0);
         x.strike(4);
-        row(due, x, "one struck", 0, 2, 4, 0, 3, 2, 1, 1, 2);
+        due.parts(x, "one struck", 0, 2, 4, 0, 3, 2, 1, 1, 2);
         x.strike(2);
-        row(due, x, "two struck", 0, 2, 5, 1, 2);
+        due.parts(x, "two struck", 0, 2, 5, 1, 2);
     }
 
     private static void fails(Due due) {
